@@ -6,6 +6,7 @@ public final class CanBeTest {
 
     public static void main(String[] args) {
         highestRows();
+        highestOfTwo();
         highestBlocked();
         highestOver();
         highestRefused();
@@ -38,6 +39,7 @@ public final class CanBeTest {
         climbs("too heavy", Check.told("h2 5 0 9;m9;m4;o3;"), 0, 0, 0, 0);
         climbs("slope counts", Check.told("h9 2 0 3;m5;o2;"), 1, 0, 1);
         climbs("the lesser number", Check.told("h9 0 0 4;m2;m2;m4;o1;"), 1, 3);
+        climbs("he is at 0 and 1 then", Check.told("h9 0 0 1;m1;o5;"), 3, 1, 0, 1, 0, 1);
         climbs("all are needed", Check.told("h9 0 0 6;m2;m2;m2;o1;"), 1, 7);
         DuskStones x = Check.told("h9 0 0 5;h9 0 0 9;m5;m6;o4;");
         x.order(0, 1);
@@ -51,6 +53,19 @@ public final class CanBeTest {
         Check.hours(y, 3);
         // Strengths are 2 and 3, and it stands at step 2 (11 and 9 made 9).
         climbs("the last hour", y, 2, 0);
+    }
+
+    private static void highestOfTwo() {
+        DuskStones x = Check.told("h9 0 0 9;h9 0 0 1;m8;m3;o3;");
+        check.due("the light stone", x.highest(1, NONE), 3);
+        check.due("the heavy stone behind it", x.highest(0, NONE), 2);
+        check.due("the heavy stone, hour 0", x.highest(0, 0), 0);
+        check.due("the heavy stone, hour 1", x.highest(0, 1), 3);
+        check.due("the heavy stone, hour 2", x.highest(0, 2), 3);
+        DuskStones y = Check.told("h9 0 0 1;h9 0 0 9;m8;o3;");
+        y.highest(0, NONE);
+        check.due("a stone that can't be moved, asked last", y.highest(1, NONE), 0);
+        check.due("nobody pushes it", y.highest(1, 0), 0);
     }
 
     private static void highestBlocked() {

@@ -237,9 +237,21 @@ public final class HillsTest {
         check.due("anew: back(0)", x.back(0), DuskStones.STATE);
         check.due("anew: written(0, 0)", x.written(0, 0), BAD);
         check.due("anew: the trace goes on", x.trace(), 1);
+        x.order(0, 0);
+        x.hour();
         check.due("an empty text", x.hills(), 0);
-        check.due("an empty text: no HILLS", x.count(0), 0);
-        check.due("an empty text: no MEN", x.count(2), 0);
+        int[] none = {0, 0, 0, 4, 0, 0, 0};
+        for (int i = 0; i < none.length; i++) {
+            check.due("an empty text: count(" + i + ")", x.count(i), none[i]);
+        }
+        check.due("an empty text: HOUR", x.now(1), 0);
+        DuskStones y = Check.told("h9 0 511 1;m9;");
+        y.order(0, 0);
+        Check.hours(y, 3);
+        Check.type(y, "h9 0 511 1;m9;");
+        y.hills();
+        check.due("the same text again: step", y.stone(0, 0), 0);
+        check.due("the same text again: STRENGTH", y.man(0, 1), 9);
     }
 
     private static void hillAndStone() {
