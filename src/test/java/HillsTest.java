@@ -12,6 +12,7 @@ public final class HillsTest {
         faultsOfHills();
         faultsOfJoins();
         faultsOfOthers();
+        lettersBehindTheEnd();
         faultChangesNothing();
         readAnew();
         hillAndStone();
@@ -184,6 +185,27 @@ public final class HillsTest {
         fault("m" + (char) 178 + ";", 1);
         fault((char) 1 + "", 0);
         fault((char) 2 + "", 0);
+    }
+
+    private static void lettersBehindTheEnd() {
+        DuskStones x = new DuskStones();
+        Check.type(x, "m12;    9;");
+        x.clear();
+        Check.type(x, "m1");
+        check.due("a cleared letter does not end it", x.hills(), -10 - 2);
+        x.type(';');
+        check.due("nor is it another item", x.hills(), 1);
+        check.due("nor a digit", x.man(0, 0), 1);
+        DuskStones full = new DuskStones();
+        Check.type(full, " ".repeat(200));
+        check.due("200 blanks", full.hills(), 0);
+        Check.type(full, " ".repeat(197) + "m9;");
+        check.due("200 letters", full.hills(), 1);
+        Check.type(full, " ".repeat(198) + "m9");
+        check.due("200 letters that end too early", full.hills(), -10 - 200);
+        full.clear();
+        Check.type(full, "9".repeat(200));
+        check.due("a number of 200 digits", full.hills(), -10);
     }
 
     private static void faultChangesNothing() {
