@@ -13,6 +13,7 @@ public final class CanBeEdgesTest {
         highestFirstRow();
         highestOver();
         highestOfNobody();
+        highestByRest();
         highestToTheTop();
         highestAsked();
         daysAtLeast();
@@ -131,6 +132,23 @@ public final class CanBeEdgesTest {
         climbs("2 of 3, the last hour", x, 1, 0);
         x.hour();
         climbs("rested, from step 1", x, 2, 0, 1);
+        for (int i = 0; i < 3; i++) {
+            DuskStones y = Check.told("h9 0 0 1;h9 5 0 9;m9;o3;");
+            check.due("a light stone, hour " + i, y.highest(0, i), 1);
+            check.due("a heavy one asked behind it, hour " + i, y.highest(1, i), 0);
+        }
+    }
+
+    private static void highestByRest() {
+        check.says("any other one 1 more (his FORCE at most)");
+        DuskStones x = Check.told("h9 0 0 3;h9 5 0 9;m3;o6;");
+        x.order(0, 1);
+        Check.hours(x, 2);
+        check.due("he is tired", x.man(0, 1), 1);
+        climbs("two hours of rest for a push", x, 1, 0, 0, 0, 1);
+        x.hour();
+        climbs("he is worn out", x, 0, 0, 0, 0);
+        climbs("he has his FORCE at most", Check.told("h9 0 0 2;m2;o2;"), 1, 0, 1);
     }
 
     private static void highestToTheTop() {
@@ -170,9 +188,9 @@ public final class CanBeEdgesTest {
     }
 
     /**
-     * No land comes near 60: all that matters of slopes, forces and hours, with all heights, ledges, rains,
-     * days, steps and wear to begin with, was tried once; the longest without a block is 52, and a block ends
-     * within 7 dusks. So 60 itself can't be seen. This is the longest of all that was found.
+     * No land comes to 60: all that matters of slopes, forces and hours was tried once with all heights, ledges,
+     * rains, weekdays, steps and wear to begin with; 52 is the longest without a block, and a block ends within
+     * 7 dusks. So 60 itself can't be seen from outside. This is the longest that was found.
      */
     private static void daysAtMost() {
         check.says("behind how many DUSKS (1 .. 60) it is OVER; 0, if it is; NONE.");

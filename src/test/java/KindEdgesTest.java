@@ -116,7 +116,9 @@ public final class KindEdgesTest {
     }
 
     private static void traceOfKinds() {
-        check.says("as often as rate() asks that body: each once");
+        check.says("KINDS of STONES are over one another: 0 STONE; 1 ROUND, 2 SPLIT, 5 HOLLOW (each under STONE); "
+            + "3 WET (under ROUND); 4 LENT (under SPLIT).");
+        check.says("as often as rate() asks that body: each once; \"up\" is what the KIND above does");
         int[] sums = {1, 11, 101, 1011, 10101, 100001};
         for (int kind = 0; kind < 6; kind++) {
             DuskStones x = Check.told("h2 0 0 1;h2 0 0 1;");
@@ -128,7 +130,8 @@ public final class KindEdgesTest {
     }
 
     private static void traceAtFirst() {
-        check.says("are added to THE TRACE, 0 at first");
+        check.says("(numbers in brackets are added to THE TRACE, 0 at first");
+        check.says("`long trace()`: THE TRACE.");
         DuskStones x = new DuskStones();
         check.due("a new object", x.trace(), 0);
         x.rate(0, 0);
@@ -292,11 +295,14 @@ public final class KindEdgesTest {
 
     private static void readAnew() {
         check.says("(Read anew: as told, nothing SEEN, IMAGES are gone.)");
-        String text = "h9 0 126 3;h2 0 2 1;j0 1 2;m9;m2;o2;r8;";
+        String text = "h9 0 32 3;h3 0 4 1;j0 1 2;m9;m2;o2;r8;";
         DuskStones x = Check.told(text);
         x.order(0, 0);
         x.order(1, 1);
-        Check.hours(x, 5);
+        Check.hours(x, 9);
+        check.due("stone 0 has ROLLED", x.stone(0, 2), 8);
+        // Stone 0 blocks its second step each day.
+        check.due("stone 1 has ROLLED", x.stone(1, 2), 4);
         x.saw(0, 0);
         x.keep(0);
         x.keep(1);

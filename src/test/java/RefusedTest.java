@@ -25,15 +25,17 @@ public final class RefusedTest {
         refusedOfOthers();
         refusedOfText();
         for (Refusal r : everywhere) {
-            leaves("used", RefusedTest::used, r);
+            leaves("used", Twins::used, r);
             leaves("new", DuskStones::new, r);
-            leaves("on the last day", RefusedTest::lastDay, r);
-            leaves("full", RefusedTest::full, r);
+            leaves("on the last day", Twins::lastDay, r);
+            leaves("full", Twins::full, r);
         }
         refusedByState();
         refusedByFull();
         refusedByFault();
         badIsFirst();
+        questionsChangeNothing();
+        lastCalls();
         check.finish();
     }
 
@@ -112,104 +114,44 @@ public final class RefusedTest {
         }
     }
 
-    /** Two hills, two men; a day, dusks, images, things seen, a trace, letters and ten calls to undo. */
-    private static DuskStones used() {
-        DuskStones x = Check.told("h9 1 30 5;h3 0 6 3;j0 1 2;m7;m4;o3;r4;");
-        x.order(0, 0);
-        x.order(1, 1);
-        Check.hours(x, 4);
-        x.keep(0);
-        x.order(1, 0);
-        Check.hours(x, 4);
-        x.keep(1);
-        x.order(0, 1);
-        Check.hours(x, 2);
-        x.saw(0, 0);
-        x.saw(1, 0);
-        x.rate(4, 1);
-        Check.type(x, "m3;o2");
-        return x;
-    }
-
-    private static DuskStones lastDay() {
-        DuskStones x = Check.told("h9 0 126 5;h2 0 6 1;m7;m4;o1;");
-        x.order(0, 0);
-        Check.hours(x, 50);
-        x.keep(1);
-        x.order(1, 1);
-        Check.hours(x, 49);
-        return x;
-    }
-
-    /** A text of 200 letters, and 6 that are SEEN. */
-    private static DuskStones full() {
-        DuskStones x = Check.told("h9 0 126 5;h2 0 6 1;m7;m4;o1;");
-        x.order(0, 0);
-        Check.hours(x, 4);
-        for (int i = 0; i < 6; i++) {
-            x.saw(0, 2);
-        }
-        Check.type(x, "m2;".repeat(3) + " ".repeat(191));
-        return x;
-    }
-
     private static void leaves(String when, Supplier<DuskStones> made, Refusal r) {
         DuskStones x = made.get();
         DuskStones y = made.get();
         check.due(when + ": " + r.call, r.made.applyAsLong(x), r.answer);
-        alike(when + ": behind " + r.call, x, y);
-    }
-
-    /** All that can be asked, all that is undone, both images, and the text. */
-    private static void alike(String when, DuskStones x, DuskStones y) {
-        check.holds(when + ": all as it was", Picture.whole(x).equals(Picture.whole(y)));
-        for (int i = 0; i < 11; i++) {
-            check.due(when + ": undo()", x.undo(), y.undo());
-            check.due(when + ": the DAY behind undo()", x.now(0), y.now(0));
-            check.due(when + ": its HOUR", x.now(1), y.now(1));
-            check.due(when + ": an ORDER", x.man(0, 2), y.man(0, 2));
-        }
-        check.holds(when + ": as it was ahead of ten calls", Picture.brief(x).equals(Picture.brief(y)));
-        for (int image = 0; image < 2; image++) {
-            check.due(when + ": image " + image, x.back(image), y.back(image));
-            check.holds(when + ": all of image " + image, Picture.brief(x).equals(Picture.brief(y)));
-        }
-        check.due(when + ": the text goes on", x.type(';'), y.type(';'));
-        check.due(when + ": the text is read", x.hills(), y.hills());
-        check.holds(when + ": as it tells", Picture.brief(x).equals(Picture.brief(y)));
+        Twins.alike(check, when + ": behind " + r.call, x, y);
     }
 
     private static void refusedByState() {
         check.says("STATE: it is DAY 99.");
-        leaves("on the last day", RefusedTest::lastDay, new Refusal("hour()", DuskStones::hour, STATE));
+        leaves("on the last day", Twins::lastDay, new Refusal("hour()", DuskStones::hour, STATE));
         check.says("STATE: none.");
         leaves("new", DuskStones::new, new Refusal("undo()", DuskStones::undo, STATE));
         check.says("STATE: it is OVER.");
-        leaves("on the last day", RefusedTest::lastDay, new Refusal("little(1)", x -> x.little(1), STATE));
+        leaves("on the last day", Twins::lastDay, new Refusal("little(1)", x -> x.little(1), STATE));
         check.says("STATE: none was kept.");
-        leaves("on the last day", RefusedTest::lastDay, new Refusal("back(0)", x -> x.back(0), STATE));
+        leaves("on the last day", Twins::lastDay, new Refusal("back(0)", x -> x.back(0), STATE));
         leaves("new", DuskStones::new, new Refusal("back(0)", x -> x.back(0), STATE));
         leaves("new", DuskStones::new, new Refusal("back(1)", x -> x.back(1), STATE));
     }
 
     private static void refusedByFull() {
         check.says("comes to THE TEXT: how many it has. BAD; FULL.");
-        leaves("full", RefusedTest::full, new Refusal("type('x')", x -> x.type('x'), FULL));
-        leaves("full", RefusedTest::full, new Refusal("type(0)", x -> x.type(0), FULL));
+        leaves("full", Twins::full, new Refusal("type('x')", x -> x.type('x'), FULL));
+        leaves("full", Twins::full, new Refusal("type(0)", x -> x.type(0), FULL));
         check.says("SEEN: how much there is. BAD; FULL.");
-        leaves("full", RefusedTest::full, new Refusal("saw(1, 2)", x -> x.saw(1, 2), FULL));
-        leaves("full", RefusedTest::full, new Refusal("saw(0, 9)", x -> x.saw(0, 9), FULL));
+        leaves("full", Twins::full, new Refusal("saw(1, 2)", x -> x.saw(1, 2), FULL));
+        leaves("full", Twins::full, new Refusal("saw(0, 9)", x -> x.saw(0, 9), FULL));
     }
 
     private static void refusedByFault() {
         check.says("-10 less FAULT: nothing changes.");
-        leaves("used", RefusedTest::used, new Refusal("hills() of a text that ends too early", DuskStones::hills, -15));
+        leaves("used", Twins::used, new Refusal("hills() of a text that ends too early", DuskStones::hills, -15));
         String[] texts = {"h", "h9 5 0 9;h", "m9;m9;m9;m", "o6;r1;o", "h2 0 0 1;h2 0 0 1;j0 1 1;j0 0 1;", "m9;o1;r127;x"};
         int[] faults = {1, 10, 9, 6, 28, 11};
         for (int i = 0; i < texts.length; i++) {
             String text = texts[i];
             Supplier<DuskStones> made = () -> {
-                DuskStones x = used();
+                DuskStones x = Twins.used();
                 x.clear();
                 Check.type(x, text);
                 return x;
@@ -220,16 +162,57 @@ public final class RefusedTest {
 
     private static void badIsFirst() {
         check.says("the first of these: BAD");
-        DuskStones full = full();
+        DuskStones full = Twins.full();
         check.due("type(256) when full", full.type(256), BAD);
         check.due("saw(2, 0) when full", full.saw(2, 0), BAD);
         check.due("saw(0, 10) when full", full.saw(0, 10), BAD);
         DuskStones fresh = new DuskStones();
         check.due("back(2) with none kept", fresh.back(2), BAD);
         check.due("back(-1) with none kept", fresh.back(-1), BAD);
-        DuskStones last = lastDay();
+        DuskStones last = Twins.lastDay();
         check.due("order(2, 0) on the last day", last.order(2, 0), BAD);
         check.due("little(2) with one that is OVER", last.little(2), BAD);
         check.due("order(0, 1) on the last day", last.order(0, 1), 0);
+    }
+
+    private static void questionsChangeNothing() {
+        check.says("(Nothing is changed.)");
+        List<Supplier<DuskStones>> states = List.of(DuskStones::new, Twins::used, Twins::lastDay, Twins::full);
+        for (Supplier<DuskStones> made : states) {
+            DuskStones x = made.get();
+            DuskStones y = made.get();
+            for (int h = 0; h < 2; h++) {
+                x.highest(h, NONE);
+                x.highest(h, 0);
+                x.highest(h, 6);
+                x.days(h);
+                x.little(h);
+                x.crew(h);
+                x.blocks(h);
+                x.evening();
+                x.odds(h, 4, 3, 0);
+                x.odds(h, 1, 10, 1);
+                x.wear(h, 9);
+                x.written(0, h);
+                x.count(h);
+            }
+            Twins.alike(check, "behind questions", x, y);
+        }
+    }
+
+    private static void lastCalls() {
+        check.says("An object is used for at most 512 calls after it has been made");
+        DuskStones x = new DuskStones();
+        for (int call = 1; call <= 511; call++) {
+            check.due("call " + call, x.type(' '), call <= 200 ? call : FULL);
+        }
+        check.due("call 512", x.clear(), 200);
+        DuskStones y = Check.told("h2 0 0 1;m9;o6;");
+        for (int call = 17; call < 511; call += 2) {
+            check.due("call " + call, y.hour(), 0);
+            check.due("call " + (call + 1), y.undo(), 0);
+        }
+        check.due("call 511", y.order(0, 0), NONE);
+        check.due("call 512", y.hour(), 1);
     }
 }

@@ -39,6 +39,7 @@ public final class TextEdgesTest {
         zeroAhead();
         endsTooEarly();
         howManyItems();
+        allAnew();
         hillAsked();
         stoneAsked();
         manAsked();
@@ -503,6 +504,29 @@ public final class TextEdgesTest {
         check.due("no HILLS", x.count(0), 0);
         check.due("no JOINS", x.count(1), 0);
         check.due("no MEN", x.count(2), 0);
+    }
+
+    private static void allAnew() {
+        check.says("THE TEXT tells all anew");
+        String two = "h9 0 510 1;h9 0 510 1;";
+        DuskStones x = Check.told(two + "j0 1 1;j0 1 2;m9;m9;m9;o6;r127;");
+        for (int times = 0; times < 2; times++) {
+            Check.type(x, two + "m9;");
+            check.due("a lesser text", x.hills(), 3);
+            x.order(0, 0);
+            x.hour();
+            check.due("JOINS are gone", x.blocks(1), 0);
+            check.due("MEN are gone", x.man(1, 0), BAD);
+            Check.hours(x, 3);
+            check.due("HOURS are gone", x.now(0), 1);
+            check.due("RAIN is gone", x.stone(0, 0), 4);
+        }
+        Check.type(x, two + "j1 0 1;m9;m1;o5;");
+        check.due("a greater text", x.hills(), 6);
+        x.order(0, 0);
+        x.hour();
+        check.due("a JOIN is told", x.blocks(1), 1);
+        check.due("a MAN is told", x.man(1, 1), 1);
     }
 
     private static void hillAsked() {

@@ -146,6 +146,8 @@ public final class WorkEdgesTest {
             }
         }
         check.due("no join", comesUp("", 2), 1);
+        check.due("four joins, none from 2 on", comesUp("j0 1 9;j1 0 8;j0 1 4;j1 0 3;", 2), 1);
+        check.due("four joins, the last from 2 on", comesUp("j0 1 9;j1 0 8;j0 1 4;j1 0 2;", 2), 0);
     }
 
     private static void blockedByAnother() {
