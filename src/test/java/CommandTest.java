@@ -3,7 +3,12 @@ import java.nio.charset.StandardCharsets;
 import java.nio.file.Files;
 import java.nio.file.Path;
 import java.nio.file.StandardCopyOption;
+import java.util.ArrayList;
 import java.util.List;
+import java.util.concurrent.ExecutionException;
+import java.util.concurrent.ExecutorService;
+import java.util.concurrent.Executors;
+import java.util.concurrent.Future;
 
 /**
  * The command of README.md, run in a project of a few small tests beside a shared folder of its own: it runs
@@ -15,13 +20,20 @@ public final class CommandTest {
     private static final String PASSES = "", FAILS = "System.exit(1);", THROWS = "throw new IllegalStateException();";
     private static final String NO_JAVA = "this is no Java;";
 
-    private record Ended(int code, List<String> lines) { }
+    private static final String NOT_COMPILED = "the class or its own tests do not compile";
+
+    private record Ended(int code, List<String> lines) {
+        String last() {
+            return lines.isEmpty() ? "" : lines.get(lines.size() - 1);
+        }
+    }
 
     /** A project with two tests of its own and two shared ones, which pass till one is put in their place. */
     private static final class Project {
+        // Read first: without a command no folder is left behind.
+        final String command = new Readme().command();
         final Path place = Files.createTempDirectory("command");
         final Path main = place.resolve("main");
-        final String command = new Readme().command();
 
         Project() throws IOException {
             take(command);
@@ -68,24 +80,38 @@ public final class CommandTest {
         void in(Project project) throws IOException;
     }
 
+    /** One project, what is changed in it, and the line that the command must say then. */
+    private record Case(String when, String line, Change change) {
+        Ended ended() throws IOException, InterruptedException {
+            Project project = new Project();
+            try {
+                change.in(project);
+                return project.run(project.main);
+            } finally {
+                Folders.remove(project.place);
+            }
+        }
+    }
+
+    private static final List<Case> FAILING = List.of(
+        new Case("a test of the project fails", "FAILED: SecondTest", p -> p.own("SecondTest", FAILS)),
+        new Case("a test of the project throws", "FAILED: FirstTest", p -> p.own("FirstTest", THROWS)),
+        new Case("a test of the project is no Java", NOT_COMPILED, p -> p.own("FirstTest", NO_JAVA)),
+        new Case("a shared test fails", "FAILED: Third", p -> p.shared("Third", FAILS)),
+        new Case("a shared test throws", "FAILED: Fourth", p -> p.shared("Fourth", THROWS)),
+        new Case("a shared test is no Java", "FAILED: Third does not compile", p -> p.shared("Third", NO_JAVA)),
+        new Case("there are no shared tests", "no tests under ../shared/tests",
+            p -> Folders.remove(p.place.resolve("shared"))),
+        new Case("the class is no Java", NOT_COMPILED, p -> Files.writeString(p.main.resolve(CLASS), NO_JAVA)));
+
     public static void main(String[] args) throws Exception {
         runsAll();
-        fails("a test of the project fails", "FAILED: SecondTest", p -> p.own("SecondTest", FAILS));
-        fails("a test of the project throws", "FAILED: FirstTest", p -> p.own("FirstTest", THROWS));
-        fails("a test of the project is no Java", "the class or its own tests do not compile",
-            p -> p.own("FirstTest", NO_JAVA));
-        fails("a shared test fails", "FAILED: Third", p -> p.shared("Third", FAILS));
-        fails("a shared test throws", "FAILED: Fourth", p -> p.shared("Fourth", THROWS));
-        fails("a shared test is no Java", "FAILED: Third does not compile", p -> p.shared("Third", NO_JAVA));
-        fails("there are no shared tests", "no tests under ../shared/tests",
-            p -> Folders.remove(p.place.resolve("shared")));
-        fails("the class is no Java", "the class or its own tests do not compile",
-            p -> Files.writeString(p.main.resolve(CLASS), NO_JAVA));
+        failsIfOneFails();
         check.finish();
     }
 
     /** From whichever folder it is called. */
-    private static void runsAll() throws Exception {
+    private static void runsAll() throws IOException, InterruptedException {
         Project project = new Project();
         try {
             for (Path from : List.of(project.main, project.place)) {
@@ -94,29 +120,29 @@ public final class CommandTest {
                 for (String name : List.of("FirstTest", "SecondTest", "Third", "Fourth")) {
                     check.holds(name + " ran once", ended.lines.stream().filter((name + " 0")::equals).count() == 1);
                 }
-                check.holds("all are counted", lastOf(ended).equals("4 passed, 0 failed"));
+                check.holds("all are counted", ended.last().equals("4 passed, 0 failed"));
             }
         } finally {
             Folders.remove(project.place);
         }
     }
 
-    private static void fails(String when, String line, Change change) throws Exception {
-        Project project = new Project();
-        try {
-            change.in(project);
-            Ended ended = project.run(project.main);
-            check.holds(when + ": exit code " + ended.code, ended.code != 0);
-            check.holds(when + ": it says so", ended.lines.contains(line));
-            if (line.startsWith("FAILED")) {
-                check.holds(when + ": the others ran", lastOf(ended).equals("3 passed, 1 failed"));
-            }
-        } finally {
-            Folders.remove(project.place);
+    /** The projects know nothing of one another, so they run side by side. */
+    private static void failsIfOneFails() throws InterruptedException, ExecutionException {
+        ExecutorService hands = Executors.newFixedThreadPool(4);
+        List<Future<Ended>> ends = new ArrayList<>();
+        for (Case it : FAILING) {
+            ends.add(hands.submit(it::ended));
         }
-    }
-
-    private static String lastOf(Ended ended) {
-        return ended.lines.isEmpty() ? "" : ended.lines.get(ended.lines.size() - 1);
+        hands.shutdown();
+        for (int i = 0; i < FAILING.size(); i++) {
+            Case it = FAILING.get(i);
+            Ended ended = ends.get(i).get();
+            check.holds(it.when + ": exit code " + ended.code, ended.code != 0);
+            check.holds(it.when + ": it says so", ended.lines.contains(it.line));
+            if (it.line.startsWith("FAILED")) {
+                check.holds(it.when + ": the others ran", ended.last().equals("3 passed, 1 failed"));
+            }
+        }
     }
 }
